@@ -230,7 +230,8 @@ public final class ShorthandCourt {
             return OUTSIDE;
         }
         int found = 0;
-        for (int row = Row.firstOf(n); row < Row.endOf(n); row++) {
+        int end = Row.endOf(n);
+        for (int row = Row.firstOf(n); row < end; row++) {
             if (isAsTold(row)) {
                 found++;
             }
@@ -242,7 +243,8 @@ public final class ShorthandCourt {
         if (!isLength(n, 0)) {
             return OUTSIDE;
         }
-        for (int row = Row.firstOf(n); row < Row.endOf(n); row++) {
+        int end = Row.endOf(n);
+        for (int row = Row.firstOf(n); row < end; row++) {
             if (isAsTold(row)) {
                 return Row.asFigures(row);
             }
@@ -255,7 +257,8 @@ public final class ShorthandCourt {
             return OUTSIDE;
         }
         int found = NONE;
-        for (int row = Row.firstOf(n); row < Row.endOf(n); row++) {
+        int end = Row.endOf(n);
+        for (int row = Row.firstOf(n); row < end; row++) {
             if (isAsTold(row)) {
                 int word = Row.wordOrNone(row, place);
                 if (found != NONE && found != word) {
@@ -273,7 +276,8 @@ public final class ShorthandCourt {
         }
         int all = 0;
         int such = 0;
-        for (int row = Row.firstOf(n); row < Row.endOf(n); row++) {
+        int end = Row.endOf(n);
+        for (int row = Row.firstOf(n); row < end; row++) {
             if (isAsTold(row)) {
                 all++;
                 if (Row.wordOrNone(row, place) == word) {
@@ -364,8 +368,9 @@ public final class ShorthandCourt {
         if (!isLength(n, 0)) {
             return OUTSIDE;
         }
-        for (int size = 0; size <= bench.size; size++) {
-            for (int set = 0; set <= bench.everybody(); set++) {
+        int everybody = bench.everybody();
+        for (int size = 0; size <= MOST_CLERKS; size++) {
+            for (int set = 0; set <= everybody; set++) {
                 if (Integer.bitCount(set) == size && tellsAllApart(set, n)) {
                     return set;
                 }
@@ -406,8 +411,9 @@ public final class ShorthandCourt {
             return STATE;
         }
         int unlike = setsUnlikeTrial();
+        int everybody = bench.everybody();
         int chance = 0;
-        for (int left = 0; left <= bench.everybody(); left++) {
+        for (int left = 0; left <= everybody; left++) {
             if (tellsTrial(left, unlike)) {
                 int stay = Integer.bitCount(left);
                 chance += power(TENTHS - x, stay) * power(x, bench.size - stay);
@@ -516,7 +522,7 @@ public final class ShorthandCourt {
 
     private void goBackTo(long state) {
         spoken = (int) (state >>> Bench.HABIT_BITS);
-        bench.goBackTo(state);
+        bench.putBack(state);
     }
 
     private static int power(int base, int exponent) {
@@ -535,7 +541,7 @@ public final class ShorthandCourt {
     private static int commonDivisor(int a, int b) {
         int divisor = a;
         int rest = b;
-        // Euclid's way needs far fewer steps for any two ints.
+        // Two ints need fewer than 64 steps of Euclid's way.
         for (int step = 0; step < 64 && rest != 0; step++) {
             int next = divisor % rest;
             divisor = rest;
@@ -547,8 +553,9 @@ public final class ShorthandCourt {
     // ---- told pages, gone through
 
     private boolean isAsTold(int row) {
-        bench.takeDown(row);
+        // Most trials fail at the first told page: the clerks behind it need not write.
         for (int clerk = 0; clerk < bench.size; clerk++) {
+            bench.takeDownBy(clerk, row);
             if (told[clerk] != UNTOLD && told[clerk] != bench.pages[clerk]) {
                 return false;
             }
@@ -559,7 +566,8 @@ public final class ShorthandCourt {
     private int mostAlike(int n, int clerk) {
         drawers.clear();
         int most = 0;
-        for (int row = Row.firstOf(n); row < Row.endOf(n); row++) {
+        int end = Row.endOf(n);
+        for (int row = Row.firstOf(n); row < end; row++) {
             if (isAsTold(row)) {
                 most = Math.max(most, drawers.putPage(bench.pages[clerk]));
             }
@@ -612,7 +620,8 @@ public final class ShorthandCourt {
 
     private boolean tellsAllApart(int set, int n) {
         drawers.clear();
-        for (int row = Row.firstOf(n); row < Row.endOf(n); row++) {
+        int end = Row.endOf(n);
+        for (int row = Row.firstOf(n); row < end; row++) {
             bench.takeDown(row);
             if (!drawers.putNew(bench.pagesOf(set))) {
                 return false;
@@ -623,10 +632,12 @@ public final class ShorthandCourt {
 
     private int blindness(int n) {
         drawers.clear();
+        int everybody = bench.everybody();
         int alike = 0;
-        for (int row = Row.firstOf(n); row < Row.endOf(n); row++) {
+        int end = Row.endOf(n);
+        for (int row = Row.firstOf(n); row < end; row++) {
             bench.takeDown(row);
-            if (!drawers.putNew(bench.pagesOf(bench.everybody()))) {
+            if (!drawers.putNew(bench.pagesOf(everybody))) {
                 alike++;
             }
         }
@@ -650,7 +661,8 @@ public final class ShorthandCourt {
         System.arraycopy(bench.pages, 0, pagesOfTrial, 0, MOST_CLERKS);
         int n = Row.wordsIn(spoken);
         int sets = 0;
-        for (int row = Row.firstOf(n); row < Row.endOf(n); row++) {
+        int end = Row.endOf(n);
+        for (int row = Row.firstOf(n); row < end; row++) {
             if (row != spoken) {
                 bench.takeDown(row);
                 sets |= 1 << setUnlikeTrial();
@@ -671,7 +683,8 @@ public final class ShorthandCourt {
 
     /** The pages left tell the trial, if each other trial is unlike it on one of them. */
     private boolean tellsTrial(int left, int unlike) {
-        for (int set = 0; set <= bench.everybody(); set++) {
+        int everybody = bench.everybody();
+        for (int set = 0; set <= everybody; set++) {
             if ((unlike >> set & 1) != 0 && (set & left) == 0) {
                 return false;
             }
@@ -846,6 +859,7 @@ public final class ShorthandCourt {
             return (1 << size) - 1;
         }
 
+        /** Clerks who are not there any more are read too, as having no habits, so that no old ones stay. */
         void readFrom(CourtText text) {
             size = Math.min(text.clerksTold(), MOST_CLERKS);
             for (int clerk = 0; clerk < MOST_CLERKS; clerk++) {
@@ -861,12 +875,16 @@ public final class ShorthandCourt {
             return letter == '-' ? 0 : letter - first + 1;
         }
 
-        /** Each clerk copies one of lesser number, so the page that he needs is there ahead of his own. */
         void takeDown(int row) {
             for (int clerk = 0; clerk < size; clerk++) {
-                int other = copies[clerk] - 1;
-                pages[clerk] = pageFrom(clerk, other >= 0 && other < clerk ? pages[other] : row);
+                takeDownBy(clerk, row);
             }
+        }
+
+        /** Clerks write in their order: each copies one of lesser number, whose page must be there. */
+        void takeDownBy(int clerk, int row) {
+            int other = copies[clerk] - 1;
+            pages[clerk] = pageFrom(clerk, other >= 0 && other < clerk ? pages[other] : row);
         }
 
         int pageFrom(int clerk, int row) {
@@ -930,7 +948,7 @@ public final class ShorthandCourt {
             return habits;
         }
 
-        void goBackTo(long state) {
+        void putBack(long state) {
             for (int clerk = 0; clerk < MOST_CLERKS; clerk++) {
                 int habits = (int) (state >>> 9 * clerk);
                 from[clerk] = habits >> 6 & 7;
