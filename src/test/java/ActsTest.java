@@ -143,12 +143,11 @@ public final class ActsTest {
         d.same("two words stay", Due.trial(x), "ab");
     }
 
-    private static void promise13Mixed() {
+    /** A court of four with so many acts of all kinds, of which the last ones are undone again. */
+    private static ShorthandCourt mixed(int acts, int undone) {
         ShorthandCourt x = Due.court("CKabc2-Kbda30K-cb11Kd--02");
         Due.tell(x, 2, "abc");
-        String[] shown = new String[14];
-        shown[0] = Due.shown(x);
-        for (int i = 0; i < 13; i++) {
+        for (int i = 0; i < acts; i++) {
             if (i == 3 || i == 8) {
                 x.strike();
             } else if (i == 4) {
@@ -162,13 +161,19 @@ public final class ActsTest {
             } else {
                 x.speak(i * 7 % 4);
             }
-            shown[i + 1] = Due.shown(x);
-            d.due("acts", x.count(3), i + 1);
         }
-        for (int left = 12; left >= 0; left--) {
+        for (int left = acts - 1; left >= acts - undone; left--) {
             d.due("undo", x.undo(), left);
-            d.same("state with " + left + " acts", Due.shown(x), shown[left]);
         }
-        d.due("told pages stay", x.clerk(2, 6), 3);
+        return x;
+    }
+
+    private static void promise13Mixed() {
+        for (int left = 0; left <= 13; left++) {
+            ShorthandCourt x = mixed(13, 13 - left);
+            d.due("acts", x.count(3), left);
+            d.due("told pages stay", x.clerk(2, 6), 3);
+            d.same("state with " + left + " acts", Due.shown(x), Due.shown(mixed(left, 0)));
+        }
     }
 }

@@ -316,14 +316,19 @@ public final class ToldPagesTest {
         d.due("of the page as he writes it", x.leaves(0), 1);
     }
 
-    private static void nothingIsChanged() {
+    private static ShorthandCourt busy() {
         ShorthandCourt x = Due.court("CKabc1-K-da00Kb--9-Kcab21");
         Due.speak(x, "abdca");
         Due.tell(x, 1, "ca");
         Due.tell(x, 2, "ad");
         x.seed(-3);
-        String shown = Due.shown(x);
+        return x;
+    }
+
+    private static void nothingIsChanged() {
+        String shown = Due.shown(busy());
         for (int n = -1; n <= 6; n++) {
+            ShorthandCourt x = busy();
             x.fits(n);
             x.least(n);
             x.sure(n, 0);
