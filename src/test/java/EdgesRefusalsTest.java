@@ -8,6 +8,7 @@ public final class EdgesRefusalsTest {
         numbers();
         noSuchClerk();
         noSuchSlot();
+        notAsTold();
         firstNamed();
         textUnchanged();
         actsUnchanged();
@@ -64,6 +65,28 @@ public final class EdgesRefusalsTest {
         int[] wrong = {-1, -2, NONE, 2, 3, 256, 65536, Integer.MIN_VALUE, Integer.MAX_VALUE};
         d.refused("keep", made, ShorthandCourt::keep, UNKNOWN, wrong);
         d.refused("again", made, ShorthandCourt::again, UNKNOWN, wrong);
+    }
+
+    private static final Due.NumberCall[] OF_NUMBER = {
+        ShorthandCourt::write, (x, what) -> x.clerk(0, what), ShorthandCourt::speak, (x, other) -> x.seat(3, other),
+        (x, word) -> x.tell(1, word), ShorthandCourt::fits, ShorthandCourt::least, (x, n) -> x.sure(n, 0),
+        (x, place) -> x.sure(5, place), (x, n) -> x.likely(n, 0, 0, true), (x, place) -> x.likely(5, place, 0, true),
+        (x, word) -> x.likely(5, 0, word, true), ShorthandCourt::toRead, ShorthandCourt::fewest,
+        ShorthandCourt::blind, ShorthandCourt::whom, (x, tenths) -> x.lost(tenths, true), (x, m) -> x.days(m, 1),
+        (x, n) -> x.days(1, n), ShorthandCourt::count};
+    private static final String[] CALLS_OF_NUMBER = {"write", "clerk, what", "speak", "seat, other", "tell, word",
+        "fits", "least", "sure, n", "sure, place", "likely, n", "likely, place", "likely, word", "toRead", "fewest",
+        "blind", "whom", "lost", "days, m", "days, n", "count"};
+
+    private static void notAsTold() {
+        d.sentence("OUTSIDE (another number is not as told), STATE (as told), FULL.");
+        for (int i = 0; i < OF_NUMBER.length; i++) {
+            d.refused(CALLS_OF_NUMBER[i], EdgesRefusalsTest::busy, OF_NUMBER[i], OUTSIDE, -1, -2, -8, -10, 1000,
+                -1000, 1 << 16, 1 << 30, Integer.MIN_VALUE, Integer.MAX_VALUE);
+            d.due(CALLS_OF_NUMBER[i] + " takes 1", OF_NUMBER[i].on(busy(), 1) == OUTSIDE ? 1 : 0, 0);
+            boolean nobody = CALLS_OF_NUMBER[i].equals("seat, other");
+            d.due(CALLS_OF_NUMBER[i] + " of NONE", OF_NUMBER[i].on(busy(), NONE), nobody ? 1 : OUTSIDE);
+        }
     }
 
     private static void firstNamed() {

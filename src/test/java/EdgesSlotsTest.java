@@ -237,7 +237,7 @@ public final class EdgesSlotsTest {
     }
 
     private static void countsFull() {
-        d.sentence("`int count(int what)`");
+        d.sentence("4 CLERKS of whom a PAGE is told (bits), 5 WORDS of all PAGES.");
         ShorthandCourt x = Due.court("CK---9-K---9-K---9-K---9-");
         Due.write(x, "CCCCCCCC");
         Due.speak(x, "abcdabc");

@@ -1,3 +1,6 @@
+import java.util.ArrayList;
+import java.util.List;
+
 /** The edges that promises 14 to 25 and the second part of 'Terms' name, sentence by sentence. */
 public final class EdgesToldTest {
     private static final int UNKNOWN = -1, OUTSIDE = -2, STATE = -3, FULL = -4, NONE = -9;
@@ -11,6 +14,7 @@ public final class EdgesToldTest {
         toldFull();
         untold();
         lengths();
+        rowsOfNoOtherLength();
         fitting();
         leastOne();
         leastFigures();
@@ -149,6 +153,43 @@ public final class EdgesToldTest {
         Due.Made nobody = () -> told(PLAIN, "abcdab");
         d.taken("fits, none does", nobody, ShorthandCourt::fits, 0, 5, OUTSIDE);
         d.due("none", nobody.now().fits(5), 0);
+    }
+
+    /** All rows of words of so many letters, as texts. */
+    private static List<String> rows(int words) {
+        List<String> rows = new ArrayList<>(List.of(""));
+        for (int i = 0; i < words; i++) {
+            List<String> longer = new ArrayList<>();
+            for (String row : rows) {
+                for (char word = 'a'; word <= 'd'; word++) {
+                    longer.add(row + word);
+                }
+            }
+            rows = longer;
+        }
+        return rows;
+    }
+
+    private static void rowsOfNoOtherLength() {
+        d.sentence("all rows of n.");
+        for (int words = 0; words <= 3; words++) {
+            for (String row : rows(words)) {
+                ShorthandCourt x = told("CK---9-K---9-", row);
+                for (int n = 0; n <= 4; n++) {
+                    boolean fits = n == words;
+                    int least = row.isEmpty() ? 0 : Integer.parseInt(row.replace('a', '1').replace('b', '2')
+                        .replace('c', '3').replace('d', '4'));
+                    d.due(row + ": fits(" + n + ")", x.fits(n), fits ? 1 : 0);
+                    d.due(row + ": least(" + n + ")", x.least(n), fits ? least : NONE);
+                    d.due(row + ": toRead(" + n + ")", x.toRead(n), fits ? 1 : NONE);
+                    if (n > 0) {
+                        int last = fits ? row.charAt(n - 1) - 'a' : NONE;
+                        d.due(row + ": sure(" + n + ", last)", x.sure(n, n - 1), last);
+                        d.due(row + ": likely(" + n + ", 0)", x.likely(n, 0, 0, false), fits ? 1 : STATE);
+                    }
+                }
+            }
+        }
     }
 
     private static void fitting() {
@@ -419,6 +460,10 @@ public final class EdgesToldTest {
         d.due("FROM ahead of TIRES: 0001 ahead of 0320", habit("abc", "ab"), 1);
         d.due("by FROM: 0141 ahead of 0240", habit("cab", "cd"), 141);
         d.due("by TIRES: 3 ahead of 4", habit("aaaaaa", "aaaaa"), 3);
+        ShorthandCourt x = Due.court("CKa--9-K---90");
+        Due.speak(x, "ab");
+        Due.tell(x, 1, "b");
+        d.due("from THE TRIAL, though he copies b", x.habit(1), 120);
     }
 
     private static void habitNone() {
