@@ -4,11 +4,13 @@ import java.util.Random;
 
 /**
  * Runs of calls by a fixed seed, each call on a ShorthandCourt and on a PlainCourt: both must answer alike.
- * Arguments are mostly such as are taken, with edges and wild numbers among them.
+ * Arguments are mostly such as are taken, with edges and wild numbers among them. Each run is as long as the
+ * document lets an object be used: 512 calls.
  */
 public final class AgainstPlainCourtTest {
     private static final int RUNS = 400;
     private static final int CALLS = 512;
+    private static final int MOST_AT_ONCE = 40;
     private static final int NONE = -9;
     private static final int[] WILD = {Integer.MIN_VALUE, Integer.MAX_VALUE, -2, NONE, 16, 31, 32, 33, 64, 1 << 30};
     private static final Due d = new Due("AgainstPlainCourtTest");
@@ -30,14 +32,19 @@ public final class AgainstPlainCourtTest {
         d.end();
     }
 
+    /** A court or a page takes several calls: the last ones of a run are single ones, up to the object's last. */
     private void run() {
-        while (log.size() < CALLS - 40 && !wrong) {
+        while (log.size() < CALLS - MOST_AT_ONCE && !wrong) {
             switch (random.nextInt(12)) {
                 case 0 -> newCourt();
                 case 1, 2 -> tellPage();
                 default -> oneCall();
             }
         }
+        while (log.size() < CALLS && !wrong) {
+            oneCall();
+        }
+        d.due("calls of a run", log.size(), wrong ? log.size() : CALLS);
     }
 
     private void same(String call, long got, long want) {

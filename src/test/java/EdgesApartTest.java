@@ -219,7 +219,8 @@ public final class EdgesApartTest {
     }
 
     private static void lostWords() {
-        d.sentence("(no other one of as many WORDS, if they are 5 at most, makes the same PAGES of those that are left)");
+        d.sentence("(no other one of as many WORDS, if they are 5 at most, makes the same PAGES of those that are "
+            + "left): a FRACTION.");
         for (int x = 0; x <= 10; x += 5) {
             lost(new ShorthandCourt(), x, 1, 1);
             lost(Due.court(PLAIN), x, 1, 1);
@@ -262,7 +263,7 @@ public final class EdgesApartTest {
     }
 
     private static void daysTaken() {
-        d.sentence("m TRIALS (1 to 30) of n WORDS (1 to 6)");
+        d.sentence("DAYS by THE SEED: m TRIALS (1 to 30) of n WORDS (1 to 6), each WORD by x");
         for (int other = 1; other <= 6; other++) {
             int n = other;
             d.taken("days(m, " + n + ")", () -> Due.court(PLAIN), (x, m) -> x.days(m, n), 1, 30, OUTSIDE);

@@ -229,7 +229,7 @@ public final class EdgesCourtTest {
     }
 
     private static void onlyNotAtEnd() {
-        d.sentence("its length, if it is only not at its end");
+        d.sentence("its length, if it is only not at its end; NONE: none.");
         for (int length = 0; length <= 25; length++) {
             int due = length % 6 == 1 ? NONE : length;
             d.due("of " + length + " letters", text(FOUR.substring(0, length)).fault(), due);
@@ -318,8 +318,8 @@ public final class EdgesCourtTest {
     }
 
     private static void tires() {
-        d.sentence("at place TIRES and 1 more, and at each second one from there on (TIRES and 3, TIRES and 5, ..), "
-            + "he omits it");
+        d.sentence("WORD by WORD (places from 0): at place TIRES and 1 more, and at each second one from there on "
+            + "(TIRES and 3, TIRES and 5, ..), he omits it");
         String[] pages = {"aca", "abdb", "abca", "abcdb", "abcda", "abcdab", "abcdab", "abcdab", "abcdab", "abcdab"};
         for (int tires = 0; tires <= 9; tires++) {
             ShorthandCourt x = Due.court("CK---" + tires + "-");

@@ -65,7 +65,8 @@ public final class EdgesToldTest {
     }
 
     private static void opened() {
-        d.sentence("His PAGE is told, empty at first: WORDS that were told of it before; NONE: none was told. UNKNOWN.");
+        d.sentence("His PAGE is told, empty at first: WORDS that were told of it before; NONE: none was told. "
+            + "UNKNOWN.");
         d.taken("open", () -> Due.court(PLAIN), ShorthandCourt::open, 0, 3, UNKNOWN);
         d.taken("of none", ShorthandCourt::new, ShorthandCourt::open, 0, -1, UNKNOWN);
         ShorthandCourt x = Due.court(PLAIN);
@@ -193,7 +194,7 @@ public final class EdgesToldTest {
     }
 
     private static void fitting() {
-        d.sentence("One FITS, if each CLERK of whom a PAGE is told would write just that.");
+        d.sentence("One FITS, if each CLERK of whom a PAGE is told would write just that. How many FIT;");
         ShorthandCourt x = told(PLAIN, "");
         d.due("an empty page is one: fits(0)", x.fits(0), 1);
         d.due("fits(1)", x.fits(1), 0);
@@ -273,7 +274,9 @@ public final class EdgesToldTest {
         d.due("all fit", Due.court(PLAIN).sure(1, 0), NONE);
         d.due("the last one is another: c or d", told("CK-cd9-", "d").sure(1, 0), NONE);
         d.due("the first one is another: a or b", told("CK-ab9-", "b").sure(1, 0), NONE);
-        // bbb, bba, bab and so on: the last one, c, is in all.
+
+        d.sentence("the WORD that is at a place in all that FIT;");
+        // bbc, bac, abc and aac: the last one, c, is in all.
         ShorthandCourt y = told("CK-ab9-", "bbc");
         d.due("sure(3, 0)", y.sure(3, 0), NONE);
         d.due("sure(3, 1)", y.sure(3, 1), NONE);
@@ -335,8 +338,8 @@ public final class EdgesToldTest {
     }
 
     private static void toReadFewest() {
-        d.sentence("the CLERK of whom no PAGE is told for whom of TRIALS that FIT, parted by what he would write, the "
-            + "most that are alike are fewest");
+        d.sentence("TO READ for n: the CLERK of whom no PAGE is told for whom of TRIALS that FIT, parted by what he "
+            + "would write, the most that are alike are fewest");
         // Of 2 words 4, 4 and 2 are alike at most; of 1 word 1, 2, 1; of 3 words 4, 8, 3.
         String three = "CK---0-K-ab9-Ka--9-";
         d.due("toRead(3)", Due.court(three).toRead(3), 2);
